@@ -194,7 +194,7 @@ public final class BoxBindings {
         if (!isBelow(k, IMAGES)) {
             return OUTSIDE;
         }
-        images[k].copyFrom(now);
+        images[k].becomeLike(now);
         kept[k] = true;
         return 1;
     }
@@ -206,7 +206,7 @@ public final class BoxBindings {
         if (!kept[k]) {
             return STATE;
         }
-        now.copyFrom(images[k]);
+        now.becomeLike(images[k]);
         return 1;
     }
 
@@ -463,10 +463,10 @@ public final class BoxBindings {
             parts.forgetAllOf(outer);
         }
 
-        void copyFrom(Box other) {
+        void becomeLike(Box other) {
             System.arraycopy(other.rules, 0, rules, 0, RULES);
-            lent.copyFrom(other.lent);
-            parts.copyFrom(other.parts);
+            lent.copyBindings(other.lent);
+            parts.copyPackets(other.parts);
             time = other.time;
         }
     }
@@ -587,7 +587,7 @@ public final class BoxBindings {
             return Integer.bitCount(blocksOf(NONE));
         }
 
-        void copyFrom(Bindings other) {
+        void copyBindings(Bindings other) {
             System.arraycopy(other.inner, 0, inner, 0, OUTERS);
             System.arraycopy(other.is, 0, is, 0, OUTERS);
             System.arraycopy(other.used, 0, used, 0, OUTERS);
@@ -699,7 +699,7 @@ public final class BoxBindings {
             return parts;
         }
 
-        void copyFrom(Packets other) {
+        void copyPackets(Packets other) {
             System.arraycopy(other.knownBy, 0, knownBy, 0, PACKETS);
             System.arraycopy(other.knownSince, 0, knownSince, 0, PACKETS);
             System.arraycopy(other.held, 0, held, 0, HELD_MOST);

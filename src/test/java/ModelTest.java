@@ -1,4 +1,5 @@
 import java.util.ArrayList;
+import java.util.Arrays;
 import java.util.HashMap;
 import java.util.HashSet;
 import java.util.List;
@@ -421,7 +422,7 @@ public final class ModelTest {
     private static final String[] NAMES = {"rule", "out", "in", "turn", "part", "tick", "drop", "of", "sent", "find",
         "next", "why", "block", "host", "soon", "image", "restore", "count"};
     private static final int[] WEIGHTS = {3, 24, 10, 7, 14, 5, 1, 10, 5, 4, 5, 4, 3, 3, 3, 1, 1, 8};
-    // Of each call the bounds of its numbers, from 0 on; a letter stands for the kind of number.
+    // Of each call the bounds of its numbers, which go from 0 on.
     private static final Map<String, int[]> BOUNDS = Map.ofEntries(
         Map.entry("rule", new int[] {6, 61}), Map.entry("out", new int[] {4, 32, 5, 32, 3}),
         Map.entry("in", new int[] {5, 32, 16, 3}), Map.entry("turn", new int[] {4, 32, 16, 3}),
@@ -482,7 +483,7 @@ public final class ModelTest {
             int[] numbers = pickNumbers(r, name, crowded);
             int want = model.call(name, numbers);
             int got = call(x, name, numbers);
-            calls.add(name + java.util.Arrays.toString(numbers) + " answered " + got);
+            calls.add(name + Arrays.toString(numbers) + " answered " + got);
             if (got != want) {
                 System.out.println("run " + seed + ": " + String.join("\n  ", calls) + ", due is " + want);
                 return false;

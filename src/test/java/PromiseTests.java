@@ -157,6 +157,10 @@ public final class PromiseTests {
         due("of(0, 2)", x.of(0, 2), 20);
         x.out(0, 1, 0, 0, 1);
         due("of(1, 1) by OPEN at first", x.of(1, 1), 0);
+        x.out(0, 1, 0, 0, 2);
+        x.tick(2);
+        x.out(0, 1, 0, 0, 0);
+        due("of(1, 1), lent anew", x.of(1, 1), 0);
     }
 
     private static void outRefused() {
@@ -780,6 +784,7 @@ public final class PromiseTests {
         due("count(3)", x.count(3), 0);
         due("restore(0)", x.restore(0), 1);
         due("tick(4)", x.tick(4), 1);
+        imagesKeepEachNumber();
         imagesKeepWhichAreKept();
     }
 
@@ -803,6 +808,44 @@ public final class PromiseTests {
         due("find", x.find(0, 9, 3, 4), 7);
         x.out(2, 9, 3, 4, 0);
         due("find", x.find(2, 9, 3, 4), 1);
+    }
+
+    /** All of a BINDING, and since when packets are KNOWN and PARTS HELD, is kept. */
+    private static void imagesKeepEachNumber() {
+        BoxBindings x = new BoxBindings();
+        x.rule(0, 2);
+        x.tick(10);
+        x.out(0, 0, 1, 7, 0);
+        x.out(3, 31, 3, 31, 0);
+        x.in(3, 31, 15, 0);
+        x.part(3, 0, 0, 31, 15);
+        x.part(3, 1, 1, 0, 0);
+        x.image(0);
+        x.tick(3);
+        x.drop(0);
+        x.drop(3);
+        x.out(0, 0, 2, 9, 2);
+        x.out(3, 31, 0, 1, 0);
+        x.part(3, 0, 0, 31, 15);
+        x.tick(2);
+        x.part(3, 1, 1, 0, 0);
+        due("restore(0)", x.restore(0), 1);
+        int[] first = {0, 0, 4, 1, 1, 7};
+        int[] last = {127, 1, 20, 1, 3, 31};
+        for (int what = 0; what < 6; what++) {
+            due("of(0, " + what + ")", x.of(0, what), first[what]);
+            due("of(15, " + what + ")", x.of(15, what), last[what]);
+        }
+        due("sent(0, 1, 7)", x.sent(0, 1, 7), 1);
+        due("sent(0, 2, 9)", x.sent(0, 2, 9), 0);
+        due("sent(15, 3, 31)", x.sent(15, 3, 31), 1);
+        due("sent(15, 0, 1)", x.sent(15, 0, 1), 0);
+        x.tick(4);
+        due("count(3), still at 4", x.count(3), 1);
+        due("count(4), still at 4", x.count(4), 1);
+        x.tick(1);
+        due("count(3), no more at 5", x.count(3), 0);
+        due("count(4), no more at 5", x.count(4), 0);
     }
 
     /** What IMAGES are kept is no part of an IMAGE. */
