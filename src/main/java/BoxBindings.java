@@ -354,21 +354,9 @@ public final class BoxBindings {
 
         /** With NONE as holder: of the BLOCKS that are nobody's, and so of the least of them. */
         int leastFitOfHolder(int holder, int port) {
-            for (int block = 0; block < BLOCKS; block++) {
-                if (lent.holderOf(block) == holder) {
-                    int outer = leastFitOfBlock(block, port);
-                    if (outer != NONE) {
-                        return outer;
-                    }
-                }
-            }
-            return NONE;
-        }
-
-        int leastFitOfBlock(int block, int port) {
-            for (int i = 0; i < BLOCK_SIZE; i++) {
-                if (isFit(block * BLOCK_SIZE + i, port)) {
-                    return block * BLOCK_SIZE + i;
+            for (int outer = 0; outer < OUTERS; outer++) {
+                if (lent.holderOf(outer / BLOCK_SIZE) == holder && isFit(outer, port)) {
+                    return outer;
                 }
             }
             return NONE;
@@ -394,8 +382,8 @@ public final class BoxBindings {
             }
         }
 
-        // A HOST has more ports of either kind than there are OUTER PORTS,
-        // so only the OUTER PORTS that it can still get set the limit.
+        // A HOST has as many ports of either kind as there are OUTER PORTS, and each BINDING
+        // takes one of both at most, so only the OUTER PORTS that it can still get set the limit.
         int countFitFor(int host, int port) {
             int fit = 0;
             for (int outer = 0; outer < OUTERS; outer++) {
@@ -492,7 +480,7 @@ public final class BoxBindings {
         }
 
         int hostOf(int outer) {
-            return isLent(outer) ? inner[outer] / PORTS : NONE;
+            return inner[outer] == NONE ? NONE : inner[outer] / PORTS;
         }
 
         int seek(int innerPort, int remote, int remotePort) {
@@ -566,8 +554,9 @@ public final class BoxBindings {
         // A BLOCK is never shared, so the first BINDING in it tells whose it is.
         int holderOf(int block) {
             for (int i = 0; i < BLOCK_SIZE; i++) {
-                if (isLent(block * BLOCK_SIZE + i)) {
-                    return hostOf(block * BLOCK_SIZE + i);
+                int host = hostOf(block * BLOCK_SIZE + i);
+                if (host != NONE) {
+                    return host;
                 }
             }
             return NONE;
