@@ -1459,6 +1459,55 @@ public final class PromiseEdgesTest {
         due("tick(1)", x.tick(1), 1);
     }
 
+    /** All OUTER PORTS, places of HELD ones and packets are used anew after they were kept. */
+    static void p18EachOneIsAsItWas() {
+        Checks.says("All but IMAGES is as it was when it was kept");
+        BoxBindings x = new BoxBindings();
+        x.rule(0, 2);
+        x.tick(100);
+        for (int port = 0; port <= 15; port++) {
+            x.out(0, port, port % 5, port, FLAG_NONE);
+            x.in(port % 5, port, port, port % 3 == 0 ? FLAG_CLOSE : FLAG_NONE);
+        }
+        fillParts(x);
+        x.tick(1);
+        x.image(0);
+        x.drop(0);
+        x.tick(5);
+        for (int port = 0; port <= 15; port++) {
+            x.out(3, port, (port + 1) % 5, 15 - port, FLAG_NONE);
+        }
+        fillParts(x);
+        x.restore(0);
+        for (int outer = 0; outer <= 15; outer++) {
+            boolean closing = outer % 3 == 0;
+            int[] due = {outer, closing ? CLOSING : OPEN, closing ? 1 : 19, 1, outer % 5, outer};
+            for (int what = 0; what <= 5; what++) {
+                due("of(" + outer + ", " + what + ")", x.of(outer, what), due[what]);
+            }
+            due("sent(" + outer + ", ..)", x.sent(outer, outer % 5, outer), 1);
+        }
+        due("count(3)", x.count(3), 6);
+        due("count(4)", x.count(4), 4);
+        x.tick(3);
+        due("count(3), at 4", x.count(3), 6);
+        due("count(4), at 4, their BINDINGS are there", x.count(4), 4);
+        x.tick(1);
+        due("count(3), at 5", x.count(3), 0);
+        due("count(4), at 5", x.count(4), 0);
+    }
+
+    /** Six that are HELD, and four packets that are KNOWN, by OUTER PORTS that do not lapse at once. */
+    private static void fillParts(BoxBindings x) {
+        for (int part = 1; part <= 6; part++) {
+            x.part(part % 4, 0, part, 0, 0);
+        }
+        int[] outers = {1, 7, 10, 14};
+        for (int remote = 0; remote <= 3; remote++) {
+            due("part 0", x.part(remote, 7, 0, 0, outers[remote]), 1);
+        }
+    }
+
     static void p18Outside() {
         Checks.says("OUTSIDE; STATE: nothing was kept in it.");
         BoxBindings x = new BoxBindings();

@@ -213,8 +213,6 @@ public final class RefusalsTest {
     }
 
     private static void dueRefusals(Call call) {
-        Checks.says("Calls that are refused answer the first that fits, in the order in which they are told with the call."
-            + " What is refused changes nothing.");
         for (State state : State.values()) {
             List<int[]> refused = new ArrayList<>();
             for (int[] a : call.mixes()) {
@@ -232,17 +230,24 @@ public final class RefusalsTest {
     }
 
     private static void dueTaken(Call call, int[] a, State state) {
+        Checks.says("OUTSIDE -2 (another number is not as told)");
         int got = call.on(state.make(), a);
         Checks.holds(call + Arrays.toString(a) + " in " + state + " is right, and answered " + got,
             got != UNKNOWN && got != OUTSIDE);
     }
 
     private static void dueRefused(Call call, List<int[]> refused, State state) {
+        Checks.says("Calls that are refused answer the first that fits, in the order in which they are told with the call");
         BoxBindings x = state.make();
         for (int[] a : refused) {
             Checks.due(call + Arrays.toString(a) + " in " + state, call.on(x, a), call.refusal(a));
         }
-        Checks.holds(call + " refused in " + state + " changed nothing", allTold(x).equals(allTold(state.make())));
+        Checks.says("What is refused changes nothing.");
+        dueSame(call + " refused", x, state);
+    }
+
+    private static void dueSame(String what, BoxBindings x, State state) {
+        Checks.holds(what + " in " + state + " changed nothing", allTold(x).equals(allTold(state.make())));
     }
 
     /** Were a state not as meant, a change could go by unseen. */
@@ -330,35 +335,35 @@ public final class RefusalsTest {
     }
 
     static void noChangesNothing() {
-        Checks.says("NO: a BINDING would have to be made, and the ports have run out for it. What is refused changes nothing.");
+        Checks.says("What is refused changes nothing.");
         for (int flag = 0; flag <= 2; flag++) {
             BoxBindings x = State.ALL_LENT.make();
             for (int host = 0; host <= 3; host++) {
                 Checks.due("out", x.out(host, 16, 3, 31, flag), NO);
                 Checks.due("turn", x.turn(host, 31, 15, flag), NO);
             }
-            Checks.holds("NO changed nothing", allTold(x).equals(allTold(State.ALL_LENT.make())));
+            dueSame("NO", x, State.ALL_LENT);
         }
     }
 
     static void fullChangesNothing() {
-        Checks.says("FULL: it would have to be HELD, and 6 are. What is refused changes nothing.");
+        Checks.says("What is refused changes nothing.");
         BoxBindings x = State.ALL_LENT.make();
         Checks.due("part 7 of the one that is HELD", x.part(0, 0, 7, 0, 0), FULL);
         for (int remote = 0; remote <= 3; remote++) {
             Checks.due("part 1 of another", x.part(remote, 7, 1, 0, 0), FULL);
         }
-        Checks.holds("FULL changed nothing", allTold(x).equals(allTold(State.ALL_LENT.make())));
+        dueSame("FULL", x, State.ALL_LENT);
     }
 
     static void stateChangesNothing() {
-        Checks.says("STATE: nothing was kept in it. What is refused changes nothing.");
+        Checks.says("What is refused changes nothing.");
         BoxBindings busy = State.BUSY.make();
         Checks.due("restore(1)", busy.restore(1), STATE);
-        Checks.holds("STATE changed nothing", allTold(busy).equals(allTold(State.BUSY.make())));
+        dueSame("STATE", busy, State.BUSY);
         BoxBindings full = State.ALL_LENT.make();
         Checks.due("restore(0)", full.restore(0), STATE);
-        Checks.holds("STATE changed nothing", allTold(full).equals(allTold(State.ALL_LENT.make())));
+        dueSame("STATE", full, State.ALL_LENT);
     }
 
     static void whatIsToldChangesNothing() {
@@ -380,7 +385,7 @@ public final class RefusalsTest {
             }
         }
         x.soon();
-        Checks.holds(call + " in " + state + " changed nothing", allTold(x).equals(allTold(state.make())));
+        dueSame(call.toString(), x, state);
     }
 
     static void inNotLetInChangesNothing() {
@@ -390,7 +395,7 @@ public final class RefusalsTest {
             Checks.due("in, not lent", x.in(0, 0, 15, flag), NONE);
             Checks.due("in by FILTER 1", x.in(1, 0, 0, flag), NONE);
         }
-        Checks.holds("IN that is not let in changed nothing", allTold(x).equals(allTold(State.BUSY.make())));
+        dueSame("IN that is not let in", x, State.BUSY);
     }
 
     /** What an object answers after its 512 calls is free, but it must answer. */

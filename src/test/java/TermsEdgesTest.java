@@ -398,6 +398,28 @@ public final class TermsEdgesTest {
         due("tick(1)", x.tick(1), 1);
     }
 
+    static void usedIsOfEachBindingByItself() {
+        Checks.says("USED, the TIME at which something went by it last");
+        BoxBindings x = new BoxBindings();
+        x.rule(3, 60);
+        x.rule(4, 60);
+        for (int port = 0; port <= 15; port++) {
+            lend(x, 0, port);
+        }
+        for (int outer = 0; outer <= 15; outer++) {
+            x.tick(1);
+            if (outer % 2 == 0) {
+                x.in(0, 0, outer, 0);
+            } else {
+                x.out(0, outer, 0, 0, 0);
+            }
+        }
+        for (int outer = 0; outer <= 15; outer++) {
+            due("of(" + outer + ", 1)", x.of(outer, 1), outer % 2 == 0 ? OPEN : NEW);
+            due("of(" + outer + ", 2)", x.of(outer, 2), 60 - 15 + outer);
+        }
+    }
+
     static void noOuterPortIsLentTwice() {
         Checks.says("No OUTER PORT is lent twice.");
         for (int parity = 0; parity <= 1; parity++) {
@@ -538,6 +560,13 @@ public final class TermsEdgesTest {
     }
 
     // ---- Terms, 2
+
+    static void itIsNewOpenOrClosing() {
+        Checks.says("It IS NEW (0), OPEN (1) or CLOSING (2)");
+        due("of(0, 1), NEW", withBinding(NEW).of(0, 1), 0);
+        due("of(0, 1), OPEN", withBinding(OPEN).of(0, 1), 1);
+        due("of(0, 1), CLOSING", withBinding(CLOSING).of(0, 1), 2);
+    }
 
     static void outFlagsAre0To2() {
         Checks.says("with a flag: 0 none, 1 OPEN, 2 CLOSE");
@@ -819,6 +848,19 @@ public final class TermsEdgesTest {
         due("next of an even port by PARITY 0", x.next(0, 4), 1);
     }
 
+    static void inFlagsAre0To2() {
+        Checks.says("IN: a port of a REMOTE (0 to 4) sends to an OUTER PORT, with a flag.");
+        BoxBindings x = withBinding(NEW);
+        due("flag -1", x.in(0, 0, 0, -1), OUTSIDE);
+        due("flag 3", x.in(0, 0, 0, 3), OUTSIDE);
+        due("of(0, 1)", x.of(0, 1), NEW);
+        due("flag 0", x.in(0, 0, 0, FLAG_NONE), 0);
+        due("flag 1", x.in(0, 0, 0, FLAG_OPEN), 0);
+        due("of(0, 1)", x.of(0, 1), OPEN);
+        due("flag 2", x.in(0, 0, 0, FLAG_CLOSE), 0);
+        due("of(0, 1)", x.of(0, 1), CLOSING);
+    }
+
     static void inReason1BeforeReason2() {
         Checks.says("It is not let in for the least of these reasons: 1 that OUTER PORT is not lent");
         for (int filter = 0; filter <= 2; filter++) {
@@ -1040,6 +1082,24 @@ public final class TermsEdgesTest {
         due("of(0, 1), the BINDING is there", six.of(0, 1), OPEN);
     }
 
+    static void knownEachPacketByItself() {
+        Checks.says("until 5 ticks later (it is so still at TIME and 4, added, no more at TIME and 5)");
+        int[][] packets = {{0, 0}, {0, 7}, {1, 0}, {2, 3}, {3, 7}};
+        BoxBindings x = withBinding(NEW);
+        for (int[] packet : packets) {
+            due("part 0 of " + packet[0] + ", " + packet[1], x.part(packet[0], packet[1], 0, 0, 0), 1);
+            x.tick(1);
+        }
+        for (int over = 1; over <= 5; over++) {
+            due("count(4), the first " + over + " are over", x.count(4), 5 - over);
+            for (int i = over; i < 5; i++) {
+                due("part 1 of one that is KNOWN", x.part(packets[i][0], packets[i][1], 1, 0, 0), 1);
+            }
+            due("part 1 of one that is over", x.part(packets[over - 1][0], packets[over - 1][1], 1, 0, 0), 0);
+            x.tick(1);
+        }
+    }
+
     static void knownAnewByPart0Again() {
         Checks.says("If it is let in, the packet is KNOWN, as one of that BINDING, until 5 ticks later");
         BoxBindings x = withBinding(NEW);
@@ -1168,6 +1228,24 @@ public final class TermsEdgesTest {
         due("part 1 of another", x.part(0, 1, 1, 0, 0), 1);
     }
 
+    static void notLetInEachPacketByItself() {
+        Checks.says("If it is not let in, all PARTS of it that are HELD go lost, and it is KNOWN no more.");
+        int[][] packets = {{0, 0}, {0, 7}, {1, 0}, {2, 3}, {3, 7}};
+        for (int[] gone : packets) {
+            BoxBindings x = withBinding(NEW);
+            for (int[] packet : packets) {
+                x.part(packet[0], packet[1], 0, 0, 0);
+            }
+            due("part 0, not let in", x.part(gone[0], gone[1], 0, 0, 1), NONE);
+            due("count(4)", x.count(4), 4);
+            for (int[] packet : packets) {
+                due("part 1 of " + packet[0] + ", " + packet[1], x.part(packet[0], packet[1], 1, 0, 0), packet == gone ? 0 : 1);
+            }
+            due("part 0, not let in: it goes lost", x.part(gone[0], gone[1], 0, 0, 1), NONE);
+            due("count(3)", x.count(3), 0);
+        }
+    }
+
     static void refusedPart0LosesNothing() {
         Checks.says("What is refused changes nothing.");
         BoxBindings x = withBinding(NEW);
@@ -1182,7 +1260,7 @@ public final class TermsEdgesTest {
     }
 
     static void heldUntil5TicksLater() {
-        Checks.says("else it is HELD (..), also until 5 ticks later");
+        Checks.says("also until 5 ticks later");
         BoxBindings x = new BoxBindings();
         x.tick(3);
         x.part(0, 0, 1, 0, 0);
@@ -1206,6 +1284,19 @@ public final class TermsEdgesTest {
         due("count(3), 6 later", six.count(3), 0);
     }
 
+    static void heldEachByItself() {
+        Checks.says("also until 5 ticks later");
+        BoxBindings x = new BoxBindings();
+        for (int i = 0; i < 5; i++) {
+            due("part", x.part(i % 4, 7 - i, 7 - i, 0, 0), 0);
+            x.tick(1);
+        }
+        for (int over = 1; over <= 5; over++) {
+            due("count(3), the first " + over + " are over", x.count(3), 5 - over);
+            x.tick(1);
+        }
+    }
+
     static void heldStaysAsSinceItCameFirst() {
         Checks.says("(one that is HELD stays so, as since it came first)");
         BoxBindings x = new BoxBindings();
@@ -1223,7 +1314,7 @@ public final class TermsEdgesTest {
     }
 
     static void heldOutlivesBindings() {
-        Checks.says("else it is HELD (..), also until 5 ticks later");
+        Checks.says("also until 5 ticks later");
         BoxBindings x = withBinding(NEW);
         x.part(0, 0, 1, 0, 0);
         x.drop(0);
