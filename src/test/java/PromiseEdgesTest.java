@@ -469,6 +469,20 @@ public final class PromiseEdgesTest {
         due("turn, nothing is SENT to the box", other.turn(1, 23, 0, 0), NONE);
     }
 
+    static void p05ThroughAnotherThanLike() {
+        Checks.says("by the OUTER PORT through which that goes, as port of REMOTE 4, IN to it");
+        BoxBindings x = new BoxBindings();
+        x.rule(1, 2);
+        due("out to 5, LIKE of the port that will turn", x.out(0, 0, 4, 5, 0), 0);
+        due("out", lend(x, 2, 5), 5);
+        due("next(1, 21), as BLOCK 1 is another's", x.next(1, 21), 8);
+        due("turn through 8", x.turn(1, 21, 0, 0), NONE);
+        due("of(0, 1), not let in", x.of(0, 1), NEW);
+        due("out to 8", x.out(0, 0, 4, 8, 0), 0);
+        due("turn through 8, which is SENT", x.turn(1, 21, 0, 0), 0);
+        due("of(0, 1)", x.of(0, 1), OPEN);
+    }
+
     static void p05UnknownHost() {
         Checks.says("UNKNOWN: HOST; OUTSIDE: port; UNKNOWN: the OUTER PORT; OUTSIDE: flag");
         BoxBindings x = allLent();
@@ -727,6 +741,21 @@ public final class PromiseEdgesTest {
         x.in(0, 0, 8, 0);
         due("tick(100), of each kind", x.tick(100), 3);
         due("count(1)", x.count(1), 100);
+    }
+
+    static void p07ManyTicksAtOnceAreAsOneAfterTheOther() {
+        Checks.says("n ticks go by, 1 to 100");
+        for (int n = 1; n <= 100; n++) {
+            BoxBindings x = new BoxBindings();
+            x.rule(4, 60);
+            lend(x, 0, 0);
+            due("PART 0, KNOWN", x.part(0, 0, 0, 0, 0), 1);
+            due("PART 1 of another, HELD", x.part(0, 1, 1, 0, 0), 0);
+            due("tick(" + n + ")", x.tick(n), n < 60 ? 0 : 1);
+            due("HELD after " + n, x.count(3), n < 5 ? 1 : 0);
+            due("KNOWN after " + n, x.count(4), n < 5 ? 1 : 0);
+            due("BINDINGS after " + n, x.count(0), n < 60 ? 1 : 0);
+        }
     }
 
     static void p07DoesNotCountWhatWentBefore() {
